@@ -375,7 +375,6 @@ public final class CakeMarks {
         int seatGuest() {
             int guest = guests;
             guests++;
-            // The row may hold the values of a guest whose coming was undone.
             setValues(guest, 0, CRUMBS - 1, 1);
             return guest;
         }

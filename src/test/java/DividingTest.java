@@ -140,6 +140,15 @@ final class DividingTest {
         for (int[] w : wrong) {
             Check.due("wrong trim", x.trim(w[0], w[1]), -1);
         }
+        CakeMarks z = Check.seated("1x24", "1x24");
+        z.give(0, 0, 0);
+        z.give(0, 22, 23);
+        Check.due("trim(0, 1) of all", z.trim(0, 1), 3);
+        Check.dueOwners("trim of all", z, "........................");
+        z.give(0, 22, 23);
+        z.give(1, 0, 0);
+        Check.due("trim(0, 1) of the last crumb", z.trim(0, 1), 1);
+        Check.dueOwners("trim of the last crumb", z, "1.....................0.");
         // The crumbs without value at the right end go back too, but none behind the last that counts.
         CakeMarks y = Check.seated("1x24", "3x6,0x18");
         y.give(0, 1, 8);

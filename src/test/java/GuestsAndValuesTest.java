@@ -8,6 +8,7 @@ final class GuestsAndValuesTest {
         clearText();
         readWhatIsRight();
         readWhatFails();
+        readForgetsTheTextBefore();
         readIsAnAction();
         Check.finish();
     }
@@ -152,6 +153,17 @@ final class GuestsAndValuesTest {
             Check.due("read(1) of " + w[0], x.read(1), -1);
             Check.due("read(-1) of " + w[0], x.read(-1), -1);
         }
+    }
+
+    private static void readForgetsTheTextBefore() {
+        CakeMarks x = Check.seated("1x24");
+        Check.write(x, "1");
+        Check.due("read of 1", x.read(0), -1001);
+        Check.write(x, "1x24,3x5");
+        Check.write(x, "1x2");
+        Check.due("read of 1x2", x.read(0), -1003);
+        Check.write(x, "1x");
+        Check.due("read of 1x", x.read(0), -1002);
     }
 
     private static void readIsAnAction() {

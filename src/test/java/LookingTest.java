@@ -26,6 +26,12 @@ final class LookingTest {
         Check.due("count(3)", x.count(3), 26);
         Check.due("count(4)", x.count(4), 0);
         Check.due("count(5)", x.count(5), 1);
+        x.putBack(1, 23);
+        Check.due("count(2), envies of 1 and 2", x.count(2), 1);
+        Check.due("count(3), envies of 1 and 2", x.count(3), 2);
+        x.setValue(1, 0, 0, 1);
+        Check.due("count(2), an envy of 1", x.count(2), 1);
+        Check.due("count(4), an envy of 1", x.count(4), 0);
         x.putBack(0, 23);
         Check.due("count(2) of nothing", x.count(2), 0);
         Check.due("count(3) of nothing", x.count(3), 0);
@@ -47,6 +53,8 @@ final class LookingTest {
         Check.due("count(5), 5 and 6 of 24", x.count(5), 2);
         x.setValue(0, 0, 23, 0);
         Check.due("count(5), a total of 0", x.count(5), 1);
+        x.setValue(0, 1, 1, 1);
+        Check.due("count(5), all of a total of 1", x.count(5), 2);
     }
 
     private static void guest() {
@@ -76,6 +84,11 @@ final class LookingTest {
         Check.due("guest(0, 7)", x.guest(0, 7), -1);
         Check.due("guest(2, 0)", x.guest(2, 0), -1);
         Check.due("guest(-1, 0)", x.guest(-1, 0), -1);
+        x.setValue(1, 4, 4, 1);
+        x.give(1, 4, 4);
+        Check.due("share 1 of 1", x.guest(1, 3), 1);
+        Check.due("share 1 of 1", x.guest(1, 4), 1);
+        x.putBack(4, 4);
         x.give(0, 0, 23);
         Check.due("share 1", x.guest(0, 3), 1);
         Check.due("share 1", x.guest(0, 4), 1);

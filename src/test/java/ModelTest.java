@@ -48,7 +48,8 @@ final class ModelTest {
         int from = roll(24);
         switch (action) {
             case "setValue":
-                both(action, someGuest(), odd(from, 24), odd(from + roll(24 - from), 24), odd(kind == 0 ? roll(2) : roll(10), 10));
+                int value = kind == 0 ? roll(2) : roll(10);
+                both(action, someGuest(), odd(from, 24), odd(from + roll(24 - from), 24), odd(value, 10));
                 break;
             case "give":
                 both(action, someGuest(), odd(from, 24), odd(from + roll(Math.min(9, 24 - from)), 24));

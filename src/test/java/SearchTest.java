@@ -79,6 +79,8 @@ final class SearchTest {
         dueBest(Check.seated("0x8,3x8,0x8", "0x24", "1x8,0x16"), new int[] {0, 1, 0, 1, 2, -9});
         dueBest(Check.seated("0x18,1x6", "0x12,1x6,0x6", "0x6,1x6,0x12", "1x6,0x18"), new int[] {1, 1, 3, 6, 12, 18});
         dueBest(Check.seated("9,0x23", "9,0x23"), new int[] {0, 1, 0, 1, -9, -9});
+        dueBest(Check.seated("0x7,1,0x16"), new int[] {1, 1, 0, -9, -9, -9});
+        dueBest(Check.seated("0x23,1", "1,0x23"), new int[] {1, 1, 1, 1, -9, -9});
         dueBest(Check.seated("2x24", "1x20,6x4"), new int[] {7, 11, 0, 16, -9, -9});
         dueBest(Check.seated("1x20,6x4", "2x24"), new int[] {7, 11, 1, 16, -9, -9});
     }
@@ -128,6 +130,8 @@ final class SearchTest {
         x.addGuest();
         dueCalm(x, new int[] {24, 0, 6});
         dueCalm(Check.seated("0x24", "0x24"), new int[] {46, 0, 1});
+        dueCalm(Check.seated("0x24", "0x24", "0x24"), new int[] {6 * 253, 0, 1});
+        dueCalm(Check.seated("0x24", "0x24", "0x24", "0x24"), new int[] {24 * 1771, 0, 1});
         dueCalm(Check.seated("9,0x23", "9,0x23"), new int[] {0, -9, -9});
         dueCalm(Check.seated("9,0x22,9", "9,0x22,9"), new int[] {46, 0, 1});
         dueCalm(Check.seated("0x12,1x12", "1x12,0x12"), new int[] {13, 1, 6});
