@@ -1,3 +1,5 @@
+import java.util.Arrays;
+
 /**
  * Every range behind an argument: the last value that is allowed and the first one that is not, on both sides, the
  * smallest and the largest int; what is refused, in the order in which the errors are listed; and that nothing has
@@ -46,7 +48,7 @@ final class ArgumentEdgesTest {
     /** What is allowed is answered as the model answers it, which is a number or NONE. */
     private static void allowed(Story story, String call, int... a) {
         int want = story.toldToModel().answer(call, a);
-        String name = call + java.util.Arrays.toString(a) + " with " + story.name;
+        String name = call + Arrays.toString(a) + " with " + story.name;
         Check.that(name + " is allowed", want >= 0 || want == NONE);
         Check.due(name, Ask.of(story.told(), call, a), want);
     }
@@ -167,10 +169,11 @@ final class ArgumentEdgesTest {
         edges(Story.THREE, "append", row('1'), row(1, 255));
         CakeMarks x = new CakeMarks();
         for (int sign = 1; sign <= 255; sign++) {
-            if (x.count(7) == 60) {
-                Check.due("clearText() of a full text", x.clearText(), 60);
+            int length = (sign - 1) % 60;
+            if (length == 0) {
+                Check.due("clearText() of a full text, or of a new one", x.clearText(), sign == 1 ? 0 : 60);
             }
-            Check.due("append(" + sign + ")", x.append(sign), (sign - 1) % 60 + 1);
+            Check.due("append(" + sign + ")", x.append(sign), length + 1);
         }
         for (int right : new int[] {1, '1', ',', 255}) {
             Sight.dueUnchanged(Story.FOUR, FULL, "append", right);

@@ -144,6 +144,12 @@ final class DividingEdgesTest {
             y.addGuest();
             Check.due("count(5) with one more", y.count(5), guests);
         }
+        // A total of 1 is had whole or not at all.
+        CakeMarks w = Check.seated("0x5,1,0x18", "1x24");
+        w.give(0, 0, 4);
+        Check.due("0 of 1", w.count(5), 0);
+        w.give(0, 5, 5);
+        Check.due("1 of 1", w.count(5), 1);
         // A third of a total of 25 is more than 8.
         CakeMarks z = Check.seated("1x23,2", "1x24", "1x24");
         z.give(0, 0, 7);
@@ -496,6 +502,14 @@ final class DividingEdgesTest {
         Check.due("exchange()", x.exchange(), 4);
         Check.dueOwners("exchange", x, "3".repeat(6) + "0".repeat(6) + "1".repeat(6) + "2".repeat(6));
         Check.due("count(4)", x.count(4), 1);
+        x.undo();
+        // What lies on the table is nobody's, and stays there.
+        x.putBack(5, 6);
+        x.putBack(23, 23);
+        Check.due("exchange() beside a table", x.exchange(), 4);
+        Check.dueOwners("exchange", x, "33333" + ".." + "00000" + "1".repeat(6) + "22222" + ".");
+        x.undo();
+        x.undo();
         x.undo();
         // Without the last arrow there is none.
         x.setValue(3, 0, 5, 1);

@@ -13,12 +13,14 @@ final class ModelTest {
     private static CakeMarks object;
     private static Model model;
     private static String run;
+    private static int asked;
 
     public static void main(String[] args) {
         for (int number = 0; number < 400; number++) {
             object = new CakeMarks();
             model = new Model();
             run = "run " + number + ": ";
+            asked = 0;
             oneRun(number % 4 + 1, number % 5);
         }
         Check.finish();
@@ -28,7 +30,8 @@ final class ModelTest {
         for (int guest = 0; guest < guests; guest++) {
             both("addGuest");
         }
-        for (int step = 0; step < 60; step++) {
+        // A step and a look at all are fewer than 110 calls, and 512 are promised.
+        for (int step = 0; step < 60 && asked < 400; step++) {
             String action = ACTIONS[roll(ACTIONS.length)];
             if (action.equals("text")) {
                 writeText(kind);
@@ -175,6 +178,7 @@ final class ModelTest {
     }
 
     private static void both(String call, int... a) {
+        asked++;
         StringBuilder name = new StringBuilder(run).append(call);
         for (int x : a) {
             name.append(' ').append(x);

@@ -1,3 +1,5 @@
+import java.util.Arrays;
+
 /** The edges of the searches: spans of one crumb, divisions that are alike, shares of 0, no division without envy. */
 final class SearchEdgesTest {
     private static long dice = 20261120;
@@ -217,7 +219,7 @@ final class SearchEdgesTest {
     }
 
     private static void both(CakeMarks x, Model model, String call, int... a) {
-        Check.due(call + java.util.Arrays.toString(a), Ask.of(x, call, a), model.answer(call, a));
+        Check.due(call + Arrays.toString(a), Ask.of(x, call, a), model.answer(call, a));
     }
 
     private static int roll(int sides) {

@@ -171,6 +171,19 @@ final class UndoEdgesTest {
         Check.due("value(0, 0)", x.value(0, 0), 9);
         x.undo();
         Check.that("values of 0 then", Sight.values(x, 0).equals("1".repeat(24)));
+        // Of every guest up to the last one, and every crumb from the first to the last one.
+        for (int guest = 0; guest < 4; guest++) {
+            CakeMarks y = Story.FOUR.told();
+            y.setValue(guest, 0, 11, 8);
+            y.setValue(guest, 12, 23, 9);
+            y.undo();
+            Check.that("values of " + guest, Sight.values(y, guest).equals("8".repeat(12) + "1".repeat(12)));
+            y.undo();
+            Check.that("values of " + guest + " then", Sight.values(y, guest).equals("1".repeat(24)));
+            Check.due("read", y.read(guest), 64);
+            y.undo();
+            Check.that("values of " + guest + " after read", Sight.values(y, guest).equals("1".repeat(24)));
+        }
     }
 
     private static void ownersAreOfTheState() {
@@ -188,6 +201,18 @@ final class UndoEdgesTest {
         Check.dueOwners("undo of give", x, "0.......................");
         x.undo();
         Check.dueOwners("undo of the first give", x, "........................");
+        // Of every guest, and every crumb from the first to the last one.
+        CakeMarks y = Story.FOUR.told();
+        String laid = "0".repeat(6) + "1".repeat(6) + "2".repeat(6) + "3".repeat(6);
+        y.move(25, 15);
+        y.putBack(0, 23);
+        Check.due("undo()", y.undo(), 4);
+        Check.dueOwners("undo of putBack", y, laid);
+        y.trim(3, 0);
+        Check.due("undo()", y.undo(), 4);
+        Check.dueOwners("undo of trim", y, laid);
+        Check.due("undo()", y.undo(), 3);
+        Check.dueOwners("undo of move", y, "........................");
     }
 
     private static void theTextIsNot() {
