@@ -1,5 +1,5 @@
+import java.lang.reflect.Constructor;
 import java.lang.reflect.Field;
-import java.lang.reflect.Member;
 import java.lang.reflect.Method;
 import java.lang.reflect.Modifier;
 import java.util.Arrays;
@@ -16,18 +16,31 @@ final class FaceTest {
     };
     private static final String[] CONSTANTS = {"INVALID_ARGUMENT", "ILLEGAL_STATE", "CAPACITY_EXCEEDED", "NONE"};
 
-    public static void main(String[] args) {
+    public static void main(String[] args) throws IllegalAccessException {
         Check.due("INVALID_ARGUMENT", CakeMarks.INVALID_ARGUMENT, -1);
         Check.due("ILLEGAL_STATE", CakeMarks.ILLEGAL_STATE, -2);
         Check.due("CAPACITY_EXCEEDED", CakeMarks.CAPACITY_EXCEEDED, -3);
         Check.due("NONE", CakeMarks.NONE, -9);
-        Check.that("the class is public and final",
-                Modifier.isPublic(CakeMarks.class.getModifiers()) && Modifier.isFinal(CakeMarks.class.getModifiers()));
-        Check.due("constructors", CakeMarks.class.getDeclaredConstructors().length, 1);
+        theClass();
+        constructors();
         methods();
         fields();
         classes();
         Check.finish();
+    }
+
+    private static void theClass() {
+        Check.due("marks of the class", CakeMarks.class.getModifiers(), Modifier.PUBLIC | Modifier.FINAL);
+        Check.that("the class has no package", CakeMarks.class.getPackageName().isEmpty());
+        Check.that("the class extends nothing", CakeMarks.class.getSuperclass() == Object.class);
+        Check.due("interfaces", CakeMarks.class.getInterfaces().length, 0);
+    }
+
+    private static void constructors() {
+        Constructor<?>[] all = CakeMarks.class.getDeclaredConstructors();
+        Check.due("constructors", all.length, 1);
+        Check.due("marks of the constructor", all[0].getModifiers(), Modifier.PUBLIC);
+        Check.due("arguments of the constructor", all[0].getParameterCount(), 0);
     }
 
     private static void methods() {
@@ -35,8 +48,12 @@ final class FaceTest {
         Set<String> names = new HashSet<>();
         for (Method method : CakeMarks.class.getDeclaredMethods()) {
             if (!Modifier.isPrivate(method.getModifiers())) {
-                Check.that(method + " is public and answers an int", Modifier.isPublic(method.getModifiers())
-                        && !Modifier.isStatic(method.getModifiers()) && method.getReturnType() == int.class);
+                Check.due("marks of " + method, method.getModifiers(), Modifier.PUBLIC);
+                Check.that(method + " answers an int", method.getReturnType() == int.class);
+                for (Class<?> type : method.getParameterTypes()) {
+                    Check.that(method + " takes ints", type == int.class);
+                }
+                Check.due("exceptions of " + method, method.getExceptionTypes().length, 0);
                 seen.add(method.getName() + "/" + method.getParameterCount());
                 names.add(method.getName());
             }
@@ -48,15 +65,16 @@ final class FaceTest {
         }
     }
 
-    private static void fields() {
+    private static void fields() throws IllegalAccessException {
         Set<String> seen = new TreeSet<>();
         for (Field field : CakeMarks.class.getDeclaredFields()) {
-            Member member = field;
-            if (!Modifier.isPrivate(member.getModifiers())) {
+            int marks = field.getModifiers();
+            if (!Modifier.isPrivate(marks)) {
+                Check.due("marks of " + field, marks, Modifier.PUBLIC | Modifier.STATIC | Modifier.FINAL);
+                Check.that(field + " is an int", field.getType() == int.class && field.getInt(null) < 0);
                 seen.add(field.getName());
             }
-            Check.that(field + " is final if it is static",
-                    !Modifier.isStatic(member.getModifiers()) || Modifier.isFinal(member.getModifiers()));
+            Check.that(field + " is final if it is static", !Modifier.isStatic(marks) || Modifier.isFinal(marks));
         }
         Check.that("fields are " + seen, seen.equals(new TreeSet<>(Arrays.asList(CONSTANTS))));
     }

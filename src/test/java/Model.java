@@ -13,14 +13,6 @@ final class Model {
     private final Deque<Object[]> history = new ArrayDeque<>();
     private String text = "";
 
-    private long topNumerator;
-    private long topDenominator;
-    private int[] topCuts;
-    private int[] topGuests;
-    private int quiet;
-    private int[] quietCuts;
-    private int[] quietGuests;
-
     Model() {
         Arrays.fill(owner, TABLE);
     }
@@ -425,97 +417,13 @@ final class Model {
         if (what < 0 || what > 5) {
             return -1;
         }
-        if (values.isEmpty()) {
-            return -2;
-        }
-        search();
-        long divisor = 1;
-        for (long d = 2; d <= topDenominator; d++) {
-            divisor = topNumerator % d == 0 && topDenominator % d == 0 ? d : divisor;
-        }
-        switch (what) {
-            case 0: return (int) (topNumerator / divisor);
-            case 1: return topNumerator == 0 ? 1 : (int) (topDenominator / divisor);
-            case 2: return topGuests[0];
-            default: return what - 2 < values.size() ? topCuts[what - 2] : -9;
-        }
+        return values.isEmpty() ? -2 : ModelSearch.of(values).best(what);
     }
 
     private int calm(int what) {
         if (what < 0 || what > 2) {
             return -1;
         }
-        if (values.size() < 2) {
-            return -2;
-        }
-        search();
-        return what == 0 ? quiet : quiet == 0 ? -9 : what == 1 ? quietGuests[0] : quietCuts[1];
-    }
-
-    private void search() {
-        topNumerator = -1;
-        topDenominator = 1;
-        quiet = 0;
-        cutOn(new int[values.size() + 1], 1);
-    }
-
-    private void cutOn(int[] cuts, int span) {
-        if (span >= values.size()) {
-            cuts[values.size()] = 24;
-            seat(cuts, new int[values.size()], 0);
-            return;
-        }
-        for (int place = cuts[span - 1] + 1; place < 24; place++) {
-            cuts[span] = place;
-            cutOn(cuts, span + 1);
-        }
-    }
-
-    private void seat(int[] cuts, int[] guests, int span) {
-        if (span == values.size()) {
-            judge(cuts, guests);
-            return;
-        }
-        for (int guest = 0; guest < values.size(); guest++) {
-            boolean seated = false;
-            for (int i = 0; i < span; i++) {
-                seated |= guests[i] == guest;
-            }
-            if (!seated) {
-                guests[span] = guest;
-                seat(cuts, guests, span + 1);
-            }
-        }
-    }
-
-    private void judge(int[] cuts, int[] guests) {
-        long numerator = 2;
-        long denominator = 1;
-        boolean calm = true;
-        for (int span = 0; span < guests.length; span++) {
-            int own = sum(guests[span], cuts[span], cuts[span + 1]);
-            int whole = total(guests[span]);
-            long below = whole == 0 ? 1 : whole;
-            if (own * denominator < numerator * below) {
-                numerator = own;
-                denominator = below;
-            }
-            for (int other = 0; other < guests.length && calm; other++) {
-                calm = sum(guests[span], cuts[other], cuts[other + 1]) <= own;
-            }
-        }
-        if (numerator * topDenominator > topNumerator * denominator) {
-            topNumerator = numerator;
-            topDenominator = denominator;
-            topCuts = cuts.clone();
-            topGuests = guests.clone();
-        }
-        if (calm) {
-            quiet++;
-            if (quiet == 1) {
-                quietCuts = cuts.clone();
-                quietGuests = guests.clone();
-            }
-        }
+        return values.size() < 2 ? -2 : ModelSearch.of(values).calm(what);
     }
 }

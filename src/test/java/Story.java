@@ -55,6 +55,19 @@ final class Story {
         return model;
     }
 
+    Twins toldToBoth() {
+        Twins twins = new Twins(name);
+        for (String call : calls) {
+            String[] words = call.split(" ");
+            if (words[0].equals("text")) {
+                twins.write(words[1]);
+            } else {
+                twins.ask(words[0], numbers(words));
+            }
+        }
+        return twins;
+    }
+
     private static int[] numbers(String[] words) {
         return Arrays.stream(words).skip(1).mapToInt(Integer::parseInt).toArray();
     }
